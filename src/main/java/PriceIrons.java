@@ -464,17 +464,14 @@ public final class PriceIrons {
   }
 
   /**
-   * The bits that Double.doubleToLongBits would tell, for a share from 0 to 1. The language of the
-   * program has no such function; doubling is exact, so the digits behind the leading one come out
-   * as they stand. A share above 0 is at least a sixtieth: few doublings lead it to 1.
+   * The bits that Double.doubleToLongBits would tell; the language of the program has no such
+   * function. Doubling is exact, so the digits behind the leading one come out as they stand. A
+   * share is a sixtieth at the least, as day 0 is never a crease: six doublings lead it to 1.
    */
   private static long bitsOf(double share) {
-    if (share <= 0.0) {
-      return 0L;
-    }
     double scaled = share;
     long exponent = 1023L;
-    for (int doublings = 0; doublings < 64 && scaled < 1.0; doublings++) {
+    for (int doublings = 0; doublings < 6 && scaled < 1.0; doublings++) {
       scaled = scaled * 2.0;
       exponent--;
     }
@@ -891,10 +888,6 @@ public final class PriceIrons {
       return sum;
     }
 
-    private static int meanOf(State state, int part, int length) {
-      return (int) divided(1000L * sumOf(state, part, length), daysOf(state, part, length));
-    }
-
     private static int index(State state, int part) {
       long ofPart = 1000L * sumOf(state, part, state.length) * state.length;
       long ofAll = daysOf(state, part, state.length) * Means.sumAhead(state, state.length);
@@ -914,8 +907,9 @@ public final class PriceIrons {
     /** The forecast for the day behind the first days, by them alone. */
     private static int behind(State state, int method, int length) {
       int part = state.partOf(length);
-      if (method == 3 && Seasons.daysOf(state, part, length) > 0) {
-        return Seasons.meanOf(state, part, length);
+      int ofPart = method == 3 ? Seasons.daysOf(state, part, length) : 0;
+      if (ofPart > 0) {
+        return (int) divided(1000L * Seasons.sumOf(state, part, length), ofPart);
       }
       if (method == 2) {
         return Means.smoothedForwards(state, length - 1);
