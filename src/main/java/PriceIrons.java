@@ -549,7 +549,7 @@ public final class PriceIrons {
     }
 
     private void add(int price) {
-      if (length < row.length) {
+      if (length >= 0 && length < row.length) {
         row[length] = price;
         length++;
       }
@@ -575,7 +575,7 @@ public final class PriceIrons {
     private int count = 0;
 
     private History() {
-      for (int place = 0; place < MOST_SAVED; place++) {
+      for (int place = 0; place < ring.length; place++) {
         ring[place] = new State();
       }
     }
@@ -1073,7 +1073,7 @@ public final class PriceIrons {
     private final Syntax syntax = new Syntax();
 
     private void add(int code) {
-      if (length < codes.length) {
+      if (length >= 0 && length < codes.length) {
         codes[length] = code;
         length++;
       }
@@ -1146,7 +1146,7 @@ public final class PriceIrons {
     }
 
     private void startNumber() {
-      if (count < numbers.length) {
+      if (count >= 0 && count < numbers.length) {
         numbers[count] = 0;
         count++;
       }

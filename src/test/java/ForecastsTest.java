@@ -11,7 +11,6 @@ final class ForecastsTest {
     digestOfNothing();
     digestOfDays();
     digestOfStopAndText();
-    digestOfShares();
     check.finish();
   }
 
@@ -185,54 +184,5 @@ final class ForecastsTest {
     Check.type(x, "x~!");
     check.due("stop and text", x.digest(), hash(0, 3, 7, 5, 0, 0, 0, 0, 0, 1, 1, 1, 4,
         Double.doubleToLongBits(1.0), 3, 'x', '~', '!'));
-  }
-
-  /** The bits of each share that there can be are those that Double tells. */
-  private static void digestOfShares() {
-    for (int days = 1; days <= 60; days++) {
-      PriceIrons x = new PriceIrons();
-      x.setLimit(0);
-      for (int day = 0; day < days; day++) {
-        x.addPrice(1 + day);
-      }
-      x.setWindows(2, 3);
-      check.due("creases", x.creases(), days - 1);
-      for (int even = 0; even < days; even++) {
-        x.setPrice(even, 1);
-        check.due("digest by the same hash", x.digest(), digestByHand(x));
-      }
-    }
-  }
-
-  /** The digest, by the answers of the other calls; the buffer is empty, nothing has stopped. */
-  private static long digestByHand(PriceIrons x) {
-    long hash = 4523;
-    long[] first = {x.days(), x.shortWindow(), x.longWindow(), x.season(), x.creases(),
-        x.crossings(), x.greatestFall(), x.greatestFallByPairs(), x.longestRise(),
-        x.savedStates()};
-    hash = more(hash, first);
-    for (int day = 0; day < x.days(); day++) {
-      hash = more(hash, x.priceOf(day), x.mean(day, x.shortWindow()),
-          x.meanBySums(day, x.shortWindow()), x.mean(day, x.longWindow()), x.weightedMean(day),
-          x.smoothed(day), x.smoothedBack(day), x.median(day), x.isCrease(day) ? 1 : 0,
-          x.high(day), x.highByCandidates(day), x.crossing(day), x.pieces(day), x.worth(day),
-          x.barePrice(day));
-    }
-    for (int part = 0; part < Math.min(x.season(), x.days()); part++) {
-      hash = more(hash, x.seasonIndex(part));
-    }
-    hash = more(hash, x.forecast(0), x.forecast(1), x.forecast(2), x.forecast(3));
-    if (x.days() > 1) {
-      hash = more(hash, x.error(0), x.error(1), x.error(2), x.error(3), x.bestMethod());
-    }
-    return more(hash, 0, Double.doubleToLongBits(x.smoothShare()), 0);
-  }
-
-  private static long more(long start, long... values) {
-    long hash = start;
-    for (long value : values) {
-      hash = 31 * hash + value;
-    }
-    return hash;
   }
 }

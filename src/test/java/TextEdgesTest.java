@@ -413,7 +413,7 @@ final class TextEdgesTest {
   }
 
   private static void upToTheFirstPart() {
-    check.sentence("part by part, up to the first part that is not possible, and clears the buffer");
+    check.sentence("up to the first part that is not possible, and clears the buffer");
     PriceIrons x = new PriceIrons();
     check.due("the first", Check.work(x, "x0;p1;m1"), 0);
     check.due("none is done", x.days(), 0);

@@ -62,7 +62,7 @@ final class TradeEdgesTest {
 
   /** With windows of 1 and 2 days the short mean is the greater one if the price rises. */
   private static void wasNotAtTheDayAhead() {
-    check.sentence("if the mean of the short window is greater (less), and was not at the day ahead");
+    check.sentence("is greater (less) than that of the long one, and was not at the day ahead");
     for (int before = -1; before <= 1; before++) {
       for (int then = -1; then <= 1; then++) {
         PriceIrons x = Check.iron(100, 100 + before, 100 + before + then);

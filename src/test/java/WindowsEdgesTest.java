@@ -20,6 +20,7 @@ final class WindowsEdgesTest {
     smoothingAtDayZero();
     smoothingRoundsEachDay();
     leastAndGreatestMemory();
+    recursionOfSixtyDays();
     lesserOfTwoInTheMiddle();
     moreThanTheLimit();
     leastAndGreatestLimit();
@@ -279,8 +280,9 @@ final class WindowsEdgesTest {
     check.due("at first 6", x.smoothed(1), 44000);
     for (int memory = 0; memory <= 9; memory++) {
       x.setMemory(memory);
-      check.due("memory " + memory, x.smoothed(1), 40000 * memory / 10 + 50000 * (10 - memory) / 10);
-      check.due("back, memory " + memory, x.smoothedBack(1), x.smoothed(1));
+      int due = 4000 * memory + 5000 * (10 - memory);
+      check.due("memory " + memory, x.smoothed(1), due);
+      check.due("back, memory " + memory, x.smoothedBack(1), due);
     }
     check.illegalArgument(x, "-1", () -> x.setMemory(-1));
     check.illegalArgument(x, "10", () -> x.setMemory(10));
@@ -291,6 +293,21 @@ final class WindowsEdgesTest {
     greatest.setMemory(9);
     check.due("greatest", greatest.smoothed(59), 9999000);
     check.due("greatest back", greatest.smoothedBack(59), 9999000);
+  }
+
+  /** The price of day 0 is still to be told at day 59, through all days between. */
+  private static void recursionOfSixtyDays() {
+    check.sentence("Returns the same, told by recursion: at each of 60 days");
+    PriceIrons x = Check.even(60, 1);
+    x.setPrice(0, 9999);
+    x.setMemory(9);
+    int due = 9999000;
+    for (int day = 0; day < 60; day++) {
+      due = day == 0 ? due : (9 * due + 1000) / 10;
+      check.due("day " + day, x.smoothedBack(day), due);
+      check.due("forwards, day " + day, x.smoothed(day), due);
+    }
+    check.due("it is more than the other prices tell", due > 20000, true);
   }
 
   private static void median(int due, int window, int... prices) {
