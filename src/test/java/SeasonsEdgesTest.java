@@ -8,6 +8,7 @@ final class SeasonsEdgesTest {
     leastAndGreatestSeason();
     partsWithAndWithoutDays();
     noSuchPart();
+    numbersBecomeLess();
     indexRoundedDown();
     greatestIndex();
     barePriceRoundedDown();
@@ -81,6 +82,20 @@ final class SeasonsEdgesTest {
       check.illegalState(none, "0 without days", () -> none.seasonIndex(0));
       check.illegalState(none, "the last part without days", () -> none.seasonIndex(most - 1));
     }
+  }
+
+  /** Of the prices 20, 30, 40, 50, 60 the first one is of part 0, though it was of part 1. */
+  private static void numbersBecomeLess() {
+    check.sentence("Drops the oldest days; the numbers of those behind become less: parts");
+    PriceIrons x = Check.rising(6);
+    x.setSeason(2);
+    check.due("part 0: 10, 30, 50 of 210", x.seasonIndex(0), 857);
+    check.due("part 1: 20, 40, 60 of 210", x.seasonIndex(1), 1142);
+    x.dropOldest(1);
+    check.due("part 0: 20, 40, 60 of 200", x.seasonIndex(0), 1000);
+    check.due("part 1: 30, 50 of 200", x.seasonIndex(1), 1000);
+    check.due("day 5, part 1: 30, 50", x.forecast(3), 40000);
+    check.due("day 0: 20 * 3 * 200 of 120 * 5", x.barePrice(0), 20000);
   }
 
   private static void indexRoundedDown() {
