@@ -1010,21 +1010,15 @@ public final class PriceIrons {
       return true;
     }
 
-    /** Whether some number in range begins with these digits; a 0 can't go on. */
+    /**
+     * Whether some number in range begins with these digits. A 0 can't go on; what is still too
+     * small (the 1 of a long window) can, by one more digit.
+     */
     private boolean canBecomeNumber(int begun) {
       if (begun == 0) {
         return least() == 0;
       }
-      int low = begun;
-      int high = begun;
-      for (int more = 0; more < 4 && low <= most(); more++) {
-        if (high >= least()) {
-          return true;
-        }
-        low = 10 * low;
-        high = 10 * high + 9;
-      }
-      return false;
+      return begun >= least() ? begun <= most() : 10 * begun <= most();
     }
 
     private boolean numberStands() {
