@@ -651,7 +651,7 @@ public final class PriceIrons {
     private static int smoothedForwards(State state, int day) {
       int smooth = 1000 * state.at(0);
       for (int each = 1; each <= day; each++) {
-        smooth = nextSmooth(state, smooth, each);
+        smooth = nextSmooth(state.memory, smooth, state.at(each));
       }
       return smooth;
     }
@@ -661,11 +661,12 @@ public final class PriceIrons {
       if (day <= 0 || depth >= MOST_DAYS) {
         return 1000 * state.at(0);
       }
-      return nextSmooth(state, smoothedByRecursion(state, day - 1, depth + 1), day);
+      int before = smoothedByRecursion(state, day - 1, depth + 1);
+      return nextSmooth(state.memory, before, state.at(day));
     }
 
-    private static int nextSmooth(State state, int before, int day) {
-      return (state.memory * before + (10 - state.memory) * 1000 * state.at(day)) / 10;
+    private static int nextSmooth(int memory, int before, int price) {
+      return (memory * before + (10 - memory) * 1000 * price) / 10;
     }
   }
 
